@@ -395,7 +395,8 @@ public final class WatchdogBoard {
 
         void become(Board other) {
             System.arraycopy(other.rules, 0, rules, 0, RULES);
-            for (int i = 0; i < TASKS_KEPT; i++) {
+            // A task that the other has not is left as it is: addTask makes it new before it is used.
+            for (int i = 0; i < other.taskCount; i++) {
                 tasks[i].become(other.tasks[i]);
             }
             book.become(other.book);
@@ -566,6 +567,7 @@ public final class WatchdogBoard {
         final int[] faultStarts = new int[IMAGES];
         final int[] faultAmounts = new int[IMAGES];
         boolean hasJob = false;
+        // These three mean nothing without a job.
         boolean hangs = false;
         int begin = 0;
         int left = 0;
@@ -619,9 +621,6 @@ public final class WatchdogBoard {
 
         void beginRun() {
             hasJob = false;
-            hangs = false;
-            begin = 0;
-            left = 0;
             alive = 0;
             failures = 0;
             isLate = false;
@@ -631,7 +630,6 @@ public final class WatchdogBoard {
         void clearDiagnostic() {
             badCycles = 0;
             isLatched = false;
-            latchTime = 0;
             resets = 0;
         }
 

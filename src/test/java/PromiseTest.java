@@ -40,7 +40,7 @@ public final class PromiseTest {
         promise = 7; wipe();
         promise = 8; position(); positionOfNumbers();
         promise = 9; load(); loadErrors();
-        promise = 10; run(); booting(); schedule(); faults(); cycles(); tolerance(); expiry(); deadlines();
+        promise = 10; run(); booting(); secondBoot(); schedule(); faults(); cycles(); tolerance(); expiry(); deadlines();
         watchdog(); stable(); imagesAndSafe(); timeLimit();
         promise = 11; runToReset();
         promise = 12; kick();
@@ -54,7 +54,7 @@ public final class PromiseTest {
         promise = 20; worstHang(); worstHangOtherCauses();
         promise = 21; greatestKick(); greatestKickOfTheLowest();
         promise = 22; save();
-        promise = 23; restore();
+        promise = 23; restore(); restoreJobs();
         System.out.println(wrong == 0 ? "all promises are kept" : wrong + " answers are wrong");
         if (wrong != 0) {
             System.exit(1);
@@ -525,6 +525,44 @@ public final class PromiseTest {
         due("u again", x.state(U), 1);
     }
 
+    // Nothing of the run before is left when the board begins to run again.
+    private static void secondBoot() {
+        WatchdogBoard x = quick();
+        x.rule(PERIOD, 20);
+        x.rule(ATTEMPTS, 5);
+        x.addTask(10, 50);
+        x.set(0, DEADLINE, 2);
+        x.set(0, LEAST, 2);
+        x.set(0, TOLERANCE, 0);
+        x.addTask(10, 1);
+        x.set(1, CYCLE, 20);
+        x.set(1, MOST, 0);
+        x.addTask(25, 10);
+        x.set(2, DEADLINE, 2);
+        x.run(1 + 29);
+        int[] before = {29, 29, 1, 1, 1};
+        for (int what = U; what <= EXPIRED_RUNS; what++) {
+            due("state before " + what, x.state(what), before[what - U]);
+        }
+        due("jobs before", x.task(0, JOB) + x.task(2, JOB), 2);
+        due("alive before", x.task(1, ALIVE), 2);
+        due("failures before", x.task(0, FAILURES), 1);
+        due("late before", x.task(0, LATE) + x.task(2, LATE), 2);
+        due("expired before", x.state(EXPIRED_SET), 1);
+        x.reset();
+        x.run(1);
+        due("mode", x.state(MODE), RUNNING);
+        for (int what = U; what <= EXPIRED_RUNS; what++) {
+            due("state " + what, x.state(what), 0);
+        }
+        for (int i = 0; i < 3; i++) {
+            for (int what = JOB; what <= EXPIRED; what++) {
+                due("task " + i + " " + what, x.task(i, what), 0);
+            }
+        }
+        due("expired", x.state(EXPIRED_SET), 0);
+    }
+
     private static void schedule() {
         WatchdogBoard x = quick();
         x.rule(PERIOD, 100);
@@ -850,6 +888,11 @@ public final class PromiseTest {
         promise = 10;
         due("time at the limit", x.state(TIME), 1000000);
         due("no more", x.run(1), NOT_POSSIBLE);
+        WatchdogBoard y = new WatchdogBoard();
+        for (int i = 0; i < 499; i++) {
+            y.run(2000);
+        }
+        due("a run to the limit", y.run(2000), 1000000);
     }
 
     // ---- promise 11
@@ -1133,6 +1176,7 @@ public final class PromiseTest {
             due("most " + most, x.forecast(most), BAD_VALUE);
         }
         due("no reset", x.forecast(5000), NONE);
+        due("none in one tick", x.forecast(1), NONE);
         x.rule(KICK, 2000);
         due("too short", x.forecast(130), NONE);
         due("just enough", x.forecast(131), 131);
@@ -1157,6 +1201,22 @@ public final class PromiseTest {
         y.rule(CLOSE, 2000);
         due("a long way", y.forecast(2002), 2002);
         due("bad cycles were in the copy", y.task(0, BAD_CYCLES), 0);
+        // The job in the copy keeps its begin: it gets late at 66, the run at 70 does not kick any more.
+        WatchdogBoard z = quick();
+        z.rule(KICK, 0);
+        z.rule(GRACE, 0);
+        z.rule(CLOSE, 10);
+        z.addTask(50, 20);
+        z.set(0, LEAST, 0);
+        z.set(0, TOLERANCE, 0);
+        z.set(0, DEADLINE, 15);
+        z.putFault(0, 0, HANG, 0, 0);
+        z.run(1 + 53);
+        due("in the job", z.forecast(5000), 18);
+        z.run(2);
+        due("later in the job", z.forecast(5000), 16);
+        z.powerCycle();
+        due("before the job", z.forecast(5000), 1 + 71);
     }
 
     // ---- promise 20
@@ -1179,6 +1239,10 @@ public final class PromiseTest {
         due("the ticks that it takes", x.worstHang(0, 101, 1, 30 + 261), 160);
         due("one tick less", x.worstHang(0, 101, 1, 30 + 260), NONE);
         due("some starts", x.worstHang(0, 101, 20, 5000), 160);
+        due("no more starts than these", x.worstHang(0, 101, 40, 30 + 261), 160);
+        due("in one tick", x.worstHang(0, 101, 1, 1), NONE);
+        due("the first start", x.worstHang(0, 1, 1, 5000), 140);
+        due("the first starts", x.worstHang(0, 1, 60, 5000), 160);
         due("the second of them", x.worstHang(0, 102, 19, 5000), 159);
         due("some start without a reset", x.worstHang(0, 101, 60, 30 + 261), NONE);
         due("the last starts", x.worstHang(0, 4000, 60, 5000) > 0 ? 1 : 0, 1);
@@ -1215,6 +1279,7 @@ public final class PromiseTest {
         for (int most : new int[] {0, -1, 1001, Integer.MIN_VALUE, Integer.MAX_VALUE}) {
             due("most " + most, x.greatestKick(most), BAD_VALUE);
         }
+        due("in one tick", x.greatestKick(1), 2000);
         due("no reset with any", x.greatestKick(130), 2000);
         due("a tick more", x.greatestKick(131), 100);
         due("CLOSE", x.greatestKick(1000), 100);
@@ -1293,6 +1358,9 @@ public final class PromiseTest {
         x.run(1 + 31);
         int[] board = board(x);
         due("save", x.save(0), x.state(TIME));
+        compare(board, board(x));
+        x.run(500);
+        int[] later = board(x);
         putText(x, "h0");
         x.addTask(3, 3);
         x.putFault(0, 0, CRASH, 0, 0);
@@ -1303,19 +1371,51 @@ public final class PromiseTest {
             x.rule(i, RULE_GREATEST[i]);
         }
         for (int i = 0; i < 20; i++) {
+            x.powerCycle();
             x.run(200);
-            x.reset();
+            due("reset", x.reset() > 0 ? 1 : 0, 1);
         }
+        x.clear(1);
         due("restore", x.restore(0), 36);
         compare(board, board(x));
         due("the pad stays", x.state(PAD), 2);
         x.wipe();
         x.run(500);
-        int[] later = board(x);
+        compare(later, board(x));
         due("restored again", x.restore(0), 36);
         compare(board, board(x));
-        x.run(500);
-        compare(later, board(x));
+    }
+
+    // A slot keeps the jobs and the faults as they are, and gives them back.
+    private static void restoreJobs() {
+        WatchdogBoard x = quick();
+        x.rule(GRACE, 20);
+        for (int i = 0; i < 4; i++) {
+            x.addTask(20, 4 + i);
+            x.set(i, DEADLINE, 5 + i);
+        }
+        x.putFault(0, 0, HANG, 15, 0);
+        x.putFault(0, 1, SLOW, 35, 9);
+        x.putFault(0, 2, SLOW, 15, 11);
+        x.putFault(1, 3, SLOW, 55, 13);
+        x.run(1 + 23);
+        x.save(1);
+        int[][] due = new int[120][];
+        for (int i = 0; i < due.length; i++) {
+            x.run(1);
+            due[i] = board(x);
+        }
+        for (int i = 0; i < 4; i++) {
+            x.putFault(0, i, NO_FAULT, 0, 0);
+            x.putFault(1, i, NO_FAULT, 0, 0);
+        }
+        x.powerCycle();
+        x.run(1 + 47);
+        x.restore(1);
+        for (int[] board : due) {
+            x.run(1);
+            compare(board, board(x));
+        }
     }
 
     // All that the board tells of itself but the length of the pad.
