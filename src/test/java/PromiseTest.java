@@ -1395,7 +1395,7 @@ public final class PromiseTest {
             x.set(i, DEADLINE, 5 + i);
         }
         x.putFault(0, 0, HANG, 15, 0);
-        x.putFault(0, 1, SLOW, 35, 9);
+        x.putFault(0, 1, SLOW, 55, 9);
         x.putFault(0, 2, SLOW, 15, 11);
         x.putFault(1, 3, SLOW, 55, 13);
         x.run(1 + 23);
