@@ -1347,6 +1347,23 @@ public final class PromiseTest {
             due("slot " + extreme, x.restore(extreme), BAD_VALUE);
         }
         due("empty slot", x.restore(0), NOT_POSSIBLE);
+        compare(board(saved(false)), board(saved(true)));
+        compare(board(saved(false)), board(restored()));
+        WatchdogBoard later = saved(false);
+        later.run(500);
+        WatchdogBoard same = restored();
+        due("the pad stays", same.wipe(), 2);
+        same.run(500);
+        compare(board(later), board(same));
+        WatchdogBoard again = restored();
+        again.run(500);
+        due("restored again", again.restore(0), 36);
+        compare(board(saved(false)), board(again));
+    }
+
+    // A board with tasks, faults and a record, which is saved or not.
+    private static WatchdogBoard saved(boolean isSaved) {
+        WatchdogBoard x = quick();
         x.addTask(10, 4);
         x.addTask(15, 40);
         x.set(1, DEADLINE, 3);
@@ -1356,11 +1373,16 @@ public final class PromiseTest {
         x.run(1 + 3);
         x.reset();
         x.run(1 + 31);
-        int[] board = board(x);
-        due("save", x.save(0), x.state(TIME));
-        compare(board, board(x));
+        if (isSaved) {
+            due("save", x.save(0), 36);
+        }
+        return x;
+    }
+
+    // The saved board, after all of it was changed, and restored.
+    private static WatchdogBoard restored() {
+        WatchdogBoard x = saved(true);
         x.run(500);
-        int[] later = board(x);
         putText(x, "h0");
         x.addTask(3, 3);
         x.putFault(0, 0, CRASH, 0, 0);
@@ -1377,17 +1399,29 @@ public final class PromiseTest {
         }
         x.clear(1);
         due("restore", x.restore(0), 36);
-        compare(board, board(x));
-        due("the pad stays", x.state(PAD), 2);
-        x.wipe();
-        x.run(500);
-        compare(later, board(x));
-        due("restored again", x.restore(0), 36);
-        compare(board, board(x));
+        return x;
     }
 
     // A slot keeps the jobs and the faults as they are, and gives them back.
     private static void restoreJobs() {
+        for (int ticks = 1; ticks <= 120; ticks++) {
+            WatchdogBoard x = savedWithJobs();
+            x.run(ticks);
+            WatchdogBoard y = savedWithJobs();
+            y.run(7);
+            for (int i = 0; i < 4; i++) {
+                y.putFault(0, i, NO_FAULT, 0, 0);
+                y.putFault(1, i, NO_FAULT, 0, 0);
+            }
+            y.powerCycle();
+            y.run(1 + 47);
+            y.restore(1);
+            y.run(ticks);
+            compare(board(x), board(y));
+        }
+    }
+
+    private static WatchdogBoard savedWithJobs() {
         WatchdogBoard x = quick();
         x.rule(GRACE, 20);
         for (int i = 0; i < 4; i++) {
@@ -1400,25 +1434,10 @@ public final class PromiseTest {
         x.putFault(1, 3, SLOW, 55, 13);
         x.run(1 + 23);
         x.save(1);
-        int[][] due = new int[120][];
-        for (int i = 0; i < due.length; i++) {
-            x.run(1);
-            due[i] = board(x);
-        }
-        for (int i = 0; i < 4; i++) {
-            x.putFault(0, i, NO_FAULT, 0, 0);
-            x.putFault(1, i, NO_FAULT, 0, 0);
-        }
-        x.powerCycle();
-        x.run(1 + 47);
-        x.restore(1);
-        for (int[] board : due) {
-            x.run(1);
-            compare(board, board(x));
-        }
+        return x;
     }
 
-    // All that the board tells of itself but the length of the pad.
+    // All that the board tells of itself but the length of the pad; it takes some 340 of an object's 512 calls.
     private static int[] board(WatchdogBoard x) {
         int[] board = new int[21 + 6 * 19 + 40 * 5];
         int next = 0;
