@@ -545,13 +545,15 @@ public final class CallTest {
         for (int count : new int[] {0, 1, 15, 16, 17, 33}) {
             WatchdogBoard x = withRecords(count);
             x.save(1);
+            x.clear(0);
+            x.clear(1);
+            x.set(0, MOST, 0);
+            x.set(1, MOST, 0);
             for (int i = 0; i < 17; i++) {
                 x.powerCycle();
                 x.run(60);
                 x.reset();
             }
-            x.clear(0);
-            x.clear(1);
             x.restore(1);
             WatchdogBoard y = withRecords(count);
             due("count", x.state(RESETS), y.state(RESETS));
